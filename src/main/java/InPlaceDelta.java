@@ -305,7 +305,6 @@ public final class InPlaceDelta {
 
         Bytes(int limit) {
             values = new int[Math.max(0, limit)];
-            count = 0;
         }
 
         boolean isFull() {
@@ -823,7 +822,6 @@ public final class InPlaceDelta {
 
         Decoder() {
             delta = new Delta();
-            fault = NONE;
         }
 
         /** The fault of the code, or NONE: then the delta is what the code says. */

@@ -208,6 +208,13 @@ final class PromisesTest {
         Due.is("make again", tool.make(), 1);
         Due.is("in place of the former delta", Tools.deltaOf(tool), "1 0 0 4");
         planDropped("make", t -> t.make());
+        InPlaceDelta other = circle();
+        other.clear(1);
+        Tools.appendAll(other, 1, "XXabcde-fghij");
+        other.make();
+        Due.is("nothing of the former kinds stays", Tools.deltaOf(other), "2 -1 0 2; 1 0 2 5; 2 -1 7 1; 1 6 8 5");
+        Due.is("nor of the former conflicts", !other.mustPrecede(0, 2) && !other.mustPrecede(2, 0));
+        Due.is("but there are those of now", other.mustPrecede(3, 1) && !other.mustPrecede(1, 3));
         tool.plan(0);
         tool.encode();
         Due.is("the lengths of the delta", Tools.codeOf(tool), "73 4 4 1 1 0 0 4 87");
@@ -373,6 +380,11 @@ final class PromisesTest {
         planOf(late, 0, "1 2 0", 1, 3);
         planOf(late, 1, "0 1 2", 6, 3);
         planOf(late, 2, "1 2 0", 1, 3);
+        // The cycle 2, 0, 1; 2 must also precede 3: only the count of those behind it makes it the greatest.
+        InPlaceDelta before = Tools.ofDecoded("0123456789", 73, 10, 10, 4,
+                1, 6, 0, 2, 1, 4, 6, 2, 1, 1, 4, 2, 1, 9, 2, 1);
+        planOf(before, 0, "1 2 3 0", 1, 2);
+        planOf(before, 2, "0 1 3 2", 4, 2);
         InPlaceDelta swaps = twoSwaps();
         Due.is("two swaps", Tools.deltaOf(swaps), "1 4 0 4; 1 0 4 4; 2 -1 8 1; 1 15 9 5; 1 9 14 6");
         planOf(swaps, 0, "1 4 0 2 3", 9, 9);
@@ -561,6 +573,13 @@ final class PromisesTest {
         Due.is("its delta needs no conversion", tool.plan(0), 0);
         Tools.finish(tool);
         Due.is("it makes the new version", tool.compare(), InPlaceDelta.NONE);
+        Due.is("the same code again", tool.decode(), 5);
+        tool.write(0);
+        Due.is("a fault", tool.decode(), -10 - 29);
+        tool.clearCode();
+        Tools.writeAll(tool, 73, 1, 1, 1, 2, 0, 1, 9, 88);
+        Due.is("another code behind a fault", tool.decode(), 1);
+        Due.is("the delta of the other code", Tools.deltaOf(tool), "2 -1 0 1");
         InPlaceDelta lengths = Tools.ofDecoded("abc", 73, 4, 2, 0);
         Due.throwsState("the source length is that of the code", () -> lengths.plan(0));
         lengths.append(0, 'd');
@@ -615,6 +634,9 @@ final class PromisesTest {
         Due.is("the ADD 3", Tools.workOf(tool), "fghij-klmno-abcde");
         Due.throwsState("no command is left", () -> tool.step());
         Tools.unchanged("step at the end", tool, () -> tool.step());
+        InPlaceDelta dropped = atWork();
+        dropped.patch(1, 0, 1);
+        Due.throwsState("a dropped work is no work", () -> dropped.step());
         InPlaceDelta right = Tools.ofMade("abcdefgh", "XXabcdefgh");
         Due.is("a COPY to the right over itself", roundTrip(right), "XXabcdefgh");
         InPlaceDelta left = Tools.ofMade("XXabcdefgh", "abcdefgh");
@@ -757,6 +779,12 @@ final class PromisesTest {
         undone("decode", atWork(), t -> t.decode());
         undone("begin", atWork(), t -> t.begin());
         undone("step", atWork(), t -> t.step());
+        InPlaceDelta plans = Tools.ofDecoded("0123456789", 73, 10, 10, 5,
+                1, 4, 0, 3, 2, 9, 1, 65, 2, 8, 1, 66, 1, 2, 5, 2, 1, 6, 3, 1);
+        plans.plan(0);
+        undone("another plan", plans, t -> t.plan(2));
+        Due.is("the order of the former plan", Tools.orderOf(plans), "4 0 1 2 3");
+        Due.is("its loss", plans.loss(), 5);
         InPlaceDelta again = atWork();
         again.append(1, 1);
         again.undo();
@@ -807,5 +835,12 @@ final class PromisesTest {
         }
         Due.is("digest of a tool with all parts", tool.digest(), hash);
         Due.is("digest again", tool.digest(), hash);
+        InPlaceDelta two = Tools.ofMade("", "AB");
+        int[] bytes = {0, 2, 'A', 'B', 0, 2, 1, 2, -1, 0, 2, 'A', 'B', 0, 0, 0, 0, 3};
+        hash = 2777;
+        for (int value : bytes) {
+            hash = 31 * hash + value;
+        }
+        Due.is("the bytes of an ADD in their order", two.digest(), hash);
     }
 }
