@@ -224,7 +224,9 @@ final class PromisesTest {
         InPlaceDelta full = Tools.ofMade("abcd", "abcd".repeat(13) + "abcd".repeat(3));
         Due.is("12 COPY commands and the rest as one ADD", full.commands(), 13);
         Due.is("the 12th COPY", full.command(11, 0), 1);
-        Due.is("the ADD behind it", full.command(12, 0) + " " + full.command(12, 2) + " " + full.command(12, 3), "2 48 16");
+        Due.is("the ADD behind it", full.command(12, 0), 2);
+        Due.is("its target position", full.command(12, 2), 48);
+        Due.is("its length", full.command(12, 3), 16);
         Due.is("the bytes of the ADD", roundTrip(full), "abcd".repeat(16));
         InPlaceDelta gaps = Tools.ofMade("abcd", "-abcd".repeat(12) + "-abc");
         Due.is("12 COPY and 13 ADD commands", gaps.commands(), 25);
