@@ -6,15 +6,25 @@ final class Due {
 
     private static int wrong = 0;
     private static int asked = 0;
+    private static String subject = "";
 
     private Due() {
+    }
+
+    /** What the answers that follow are about; it stands before each of them that is wrong. */
+    static void about(String newSubject) {
+        subject = newSubject;
+    }
+
+    static int asked() {
+        return asked;
     }
 
     static void is(String what, Object got, Object want) {
         asked++;
         if (!want.equals(got)) {
             wrong++;
-            System.out.println(what + " answered " + got + ", due is " + want);
+            System.out.println(subject + what + " answered " + got + ", due is " + want);
         }
     }
 

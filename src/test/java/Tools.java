@@ -1,4 +1,4 @@
-/** Ways to bring a tool into a state with few words. */
+/** Ways to bring a tool into a state with few words, and to look at it. */
 final class Tools {
     private Tools() {
     }
@@ -21,8 +21,33 @@ final class Tools {
         InPlaceDelta tool = ofVersions(old, "");
         writeAll(tool, bytes);
         tool.write(checkOf(bytes));
-        tool.decode();
+        if (tool.decode() < 0) {
+            throw new IllegalStateException("the test's own code has a fault");
+        }
         return tool;
+    }
+
+    /** A delta of COPY commands alone, each given by source, target and length; both of its lengths are the size. */
+    static InPlaceDelta ofCopies(int size, int... copies) {
+        int[] bytes = new int[4 + copies.length / 3 * 4];
+        bytes[0] = 73;
+        bytes[1] = size;
+        bytes[2] = size;
+        bytes[3] = copies.length / 3;
+        for (int i = 0; i < copies.length / 3; i++) {
+            bytes[4 + 4 * i] = 1;
+            System.arraycopy(copies, 3 * i, bytes, 5 + 4 * i, 3);
+        }
+        return ofDecoded(letters(size), bytes);
+    }
+
+    /** As many bytes as wanted, all of them different. */
+    static String letters(int size) {
+        StringBuilder text = new StringBuilder();
+        for (int i = 0; i < size; i++) {
+            text.append((char) ('0' + i));
+        }
+        return text.toString();
     }
 
     static void appendAll(InPlaceDelta tool, int version, String text) {
@@ -43,6 +68,15 @@ final class Tools {
             sum += value;
         }
         return sum % 251;
+    }
+
+    /** The digest of a state that has these values. */
+    static long hashOf(int... values) {
+        long hash = 2777;
+        for (int value : values) {
+            hash = 31 * hash + value;
+        }
+        return hash;
     }
 
     static int finish(InPlaceDelta tool) {
