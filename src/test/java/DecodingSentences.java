@@ -130,14 +130,15 @@ final class DecodingSentences {
             int[] add = {2, 12, 1, 9};
             System.arraycopy(add, 0, bytes, 4 + 48, 4);
             fine("an ADD behind 12 COPY commands", bytes);
-            int[] between = States.twelveCopiesBytes();
-            fine("the 12th COPY as the 30th command", between);
+            bytes[4 + 48] = 0;
+            fault("neither 1 nor 2 behind 12 COPY commands", 4 + 48, bytes);
+            fine("the 12th COPY as the 30th command", States.twelveCopiesBytes());
         });
     }
 
     private static void positionsAndLengths() {
-        Sentences.test("each command is read byte by byte, its positions first, then its length: a position or a length "
-                + "that is greater than 64, or a length that is 0: its index", () -> {
+        Sentences.test("each command is read byte by byte, its positions first, then its length: a position or a "
+                + "length that is greater than 64, or a length that is 0: its index", () -> {
             fault("source position 65", 5, 73, 64, 64, 1, 1, 65, 0, 1);
             fault("source position 255", 5, 73, 64, 64, 1, 1, 255, 0, 1);
             fault("source position 64 is found at the length", 7, 73, 64, 64, 1, 1, 64, 0, 1);
@@ -160,8 +161,8 @@ final class DecodingSentences {
     }
 
     private static void ranges() {
-        Sentences.test("behind the length: source position + length of a COPY is greater than the source length: the index "
-                + "of its length", () -> {
+        Sentences.test("behind the length: source position + length of a COPY is greater than the source length: the "
+                + "index of its length", () -> {
             fine("equal", 73, 10, 64, 1, 1, 6, 0, 4);
             fault("greater by 1", 7, 73, 10, 64, 1, 1, 7, 0, 4);
             fine("equal to 64", 73, 64, 64, 1, 1, 60, 0, 4);
@@ -171,8 +172,8 @@ final class DecodingSentences {
             fault("not before the length is there", 7, 73, 10, 64, 1, 1, 64, 0);
             fine("an ADD has no source", 73, 0, 64, 1, 2, 60, 4, 1, 2, 3, 4);
         });
-        Sentences.test("target position + length of a command is greater than the target length: the index of its length",
-                () -> {
+        Sentences.test("target position + length of a command is greater than the target length: the index of its "
+                + "length", () -> {
             fine("equal, a COPY", 73, 64, 10, 1, 1, 0, 6, 4);
             fault("greater by 1, a COPY", 7, 73, 64, 10, 1, 1, 0, 7, 4);
             fine("equal, an ADD", 73, 64, 10, 1, 2, 8, 2, 5, 5);
@@ -190,8 +191,8 @@ final class DecodingSentences {
     }
 
     private static void writtenTwice() {
-        Sentences.test("a position of the target is written twice: the index of the target position of the command that "
-                + "writes it for the second time", () -> {
+        Sentences.test("a position of the target is written twice: the index of the target position of the command "
+                + "that writes it for the second time", () -> {
             fault("an ADD over the last byte of an ADD", 10, 73, 64, 64, 2, 2, 5, 2, 7, 7, 2, 6, 2, 8, 8);
             fault("an ADD over the first byte of an ADD", 10, 73, 64, 64, 2, 2, 5, 2, 7, 7, 2, 4, 2, 8, 8);
             fault("an ADD within an ADD", 11, 73, 64, 64, 2, 2, 5, 3, 7, 7, 7, 2, 6, 1, 8);

@@ -139,10 +139,11 @@ final class DeltaSentences {
             Due.is("the last one", States.afterAdds(42, 40, 1, 40, 42, 1).mustPrecede(28, 29), true);
             Due.is("the first one", Tools.ofCopies(9, 4, 0, 2, 0, 8, 1).mustPrecede(1, 0), true);
         });
-        Sentences.test("Returns whether both are COPY commands, i and j are different, and i must be carried out before j.",
-                () -> {
+        Sentences.test("Returns whether both are COPY commands, i and j are different, and i must be carried out "
+                + "before j.", () -> {
             // ADD 0 writes 0 to 3, COPY 1 reads 0 to 3 and writes 4 to 7, ADD 2 writes 8, COPY 3 reads 4 and writes 9.
-            InPlaceDelta tool = Tools.ofDecoded("", 73, 10, 10, 4, 2, 0, 4, 1, 1, 1, 1, 1, 0, 4, 4, 2, 8, 1, 1, 1, 4, 9, 1);
+            InPlaceDelta tool = Tools.ofDecoded("", 73, 10, 10, 4,
+                    2, 0, 4, 1, 1, 1, 1, 1, 0, 4, 4, 2, 8, 1, 1, 1, 4, 9, 1);
             for (int i = 0; i < 4; i++) {
                 for (int j = 0; j < 4; j++) {
                     Due.is(i + " before " + j, tool.mustPrecede(i, j), i == 3 && j == 1);

@@ -19,10 +19,10 @@ final class DescriptionSentences {
 
     private static void whatItIs() {
         Sentences.from("What it is");
-        Sentences.test("A tool for in-place deltas: a new version of a file is written as commands that copy from the old "
-                + "version and add bytes, the commands are put into an order in which they can overwrite the old version "
-                + "where it lies, copies that conflict in a cycle are replaced by additions, and the delta is encoded, "
-                + "decoded strictly, and carried out step by step.", () -> {
+        Sentences.test("A tool for in-place deltas: a new version of a file is written as commands that copy from the "
+                + "old version and add bytes, the commands are put into an order in which they can overwrite the old "
+                + "version where it lies, copies that conflict in a cycle are replaced by additions, and the delta is "
+                + "encoded, decoded strictly, and carried out step by step.", () -> {
             for (int policy = 0; policy <= 2; policy++) {
                 InPlaceDelta tool = States.circle();
                 Due.is("three copies in a cycle", tool.plan(policy), 1);
@@ -99,8 +99,8 @@ final class DescriptionSentences {
             Tools.finish(tool);
             Due.is("bytes 1 and 2 at 3 and 4", Tools.workOf(tool), "012125");
         });
-        Sentences.test("An ADD has a target position, a length of at least 1, and its bytes, which become the bytes of the "
-                + "new version from the target position on.", () -> {
+        Sentences.test("An ADD has a target position, a length of at least 1, and its bytes, which become the bytes of "
+                + "the new version from the target position on.", () -> {
             InPlaceDelta tool = Tools.ofDecoded("abcdef", 73, 6, 6, 2, 2, 5, 1, 'X', 2, 1, 2, 'Y', 'Z');
             Due.is("one of length 1", Tools.deltaOf(tool), "2 -1 5 1; 2 -1 1 2");
             tool.plan(0);
@@ -130,8 +130,8 @@ final class DescriptionSentences {
             Due.is("command 1", tool.command(1, 0), 1);
             Due.throwsIndex("no command 2", () -> tool.command(2, 0));
         });
-        Sentences.test("A delta has a target length, the length of the new version that it makes, and a source length, the "
-                + "length of the old version that it needs.", () -> {
+        Sentences.test("A delta has a target length, the length of the new version that it makes, and a source length, "
+                + "the length of the old version that it needs.", () -> {
             InPlaceDelta tool = Tools.ofDecoded("abc", 73, 4, 2, 0);
             Due.throwsState("3 bytes are too few", () -> tool.plan(0));
             tool.append(0, 'd');
@@ -207,8 +207,8 @@ final class DescriptionSentences {
             made("the match begins at the next byte", "bcde", "abcde", "2 -1 0 1; 1 0 1 4");
             made("behind 12 COPY commands every byte", "abcd", "abcd".repeat(12) + "Xabcd", copies(12) + "; 2 -1 48 5");
         });
-        Sentences.test("Before a COPY is appended, and at the end, the pending bytes (if there are any) are appended as "
-                + "an ADD with their target position.", () -> {
+        Sentences.test("Before a COPY is appended, and at the end, the pending bytes (if there are any) are appended "
+                + "as an ADD with their target position.", () -> {
             made("before, between and at the end", "abcd", "xyabcdzabcduvw",
                     "2 -1 0 2; 1 0 2 4; 2 -1 6 1; 1 0 7 4; 2 -1 11 3");
             made("none before, between or at the end", "abcd", "abcdabcd", "1 0 0 4; 1 0 4 4");
@@ -253,9 +253,9 @@ final class DescriptionSentences {
             tool.step();
             Due.is("the ADD writes 3 and 4", Tools.workOf(tool), "abcXYfab");
         });
-        Sentences.test("COPY i must be carried out before COPY j (i and j different) if the positions that i reads, from "
-                + "its source position to source position + length - 1, and the positions that j writes have a position "
-                + "in common.", () -> {
+        Sentences.test("COPY i must be carried out before COPY j (i and j different) if the positions that i reads, "
+                + "from its source position to source position + length - 1, and the positions that j writes have a "
+                + "position in common.", () -> {
             // COPY 0 reads 10 to 12; the others write one position each and read 40, which none writes.
             InPlaceDelta ones = Tools.ofCopies(50, 10, 0, 3, 40, 9, 1, 40, 10, 1, 40, 11, 1, 40, 12, 1, 40, 13, 1);
             Due.is("just before", ones.mustPrecede(0, 1), false);
@@ -315,8 +315,8 @@ final class DescriptionSentences {
             last.encode();
             Due.is("63 and 62", Tools.codeOf(last), "73 64 64 1 1 63 62 1 " + (73 + 128 + 1 + 1 + 63 + 62 + 1) % 251);
         });
-        Sentences.test("An encoded delta has, in this order: the byte 73; the source length; the target length; the number "
-                + "of commands; the commands; and at the end the check byte", () -> {
+        Sentences.test("An encoded delta has, in this order: the byte 73; the source length; the target length; the "
+                + "number of commands; the commands; and at the end the check byte", () -> {
             InPlaceDelta tool = Tools.ofMade("abcde", "xabcde");
             tool.plan(0);
             Due.is("length", tool.encode(), 13);
@@ -432,8 +432,8 @@ final class DescriptionSentences {
                 Due.is(size[0] + " and " + size[1], tool.workByte(-1), size[2]);
             }
         });
-        Sentences.test("When the last command has been carried out (if there are no commands, at the beginning), the work "
-                + "is cut to the target length.", () -> {
+        Sentences.test("When the last command has been carried out (if there are no commands, at the beginning), the "
+                + "work is cut to the target length.", () -> {
             InPlaceDelta tool = Tools.ofDecoded("abcdefgh", 73, 8, 3, 2, 1, 6, 0, 1, 2, 1, 1, 'Z');
             tool.plan(0);
             tool.begin();
@@ -463,8 +463,8 @@ final class DescriptionSentences {
 
     private static void undo() {
         Sentences.from("Description, Undo");
-        Sentences.test("Each successful call of a method whose description says \"undoable\" saves the state from before "
-                + "the call, even if the call changes nothing", () -> {
+        Sentences.test("Each successful call of a method whose description says \"undoable\" saves the state from "
+                + "before the call, even if the call changes nothing", () -> {
             Twin.isUndoable("patch with the same byte", States::circle, t -> t.patch(0, 0, 'a'));
             Twin.isUndoable("clear of an empty version", () -> Tools.ofVersions("abcd", ""), t -> t.clear(1));
             Twin.isUndoable("the same make", States::circle, t -> t.make());
@@ -474,7 +474,7 @@ final class DescriptionSentences {
             Twin.isUndoable("the same decode", States::twelveCopies, t -> t.decode());
             Twin.isUndoable("begin of the same work", DescriptionSentences::begun, t -> t.begin());
             Twin.isUndoable("a COPY to where it lies", DescriptionSentences::lying, t -> t.step());
-            Twin.changesNothing("a call that fails", States::underWay, t -> t.plan(3), "throws IllegalArgumentException");
+            Twin.refusesArgument("a call that fails", States::underWay, t -> t.plan(3));
             Twin.changesNothing("a decode with a fault", States::fullCode, t -> t.decode(), -10);
         });
         Sentences.test("at most 4 states are saved, and the oldest is dropped first", () -> {
@@ -510,6 +510,25 @@ final class DescriptionSentences {
             Due.is("the code", tool.code(-1), 4 + 4 + 4 + 8 + 4 + 4 + 1);
             Due.is("the work", Tools.workOf(tool), "abcde.klmno.klmno");
             Due.is("which goes on", tool.step(), 3);
+            InPlaceDelta other = States.star();
+            other.encode();
+            other.begin();
+            other.clear(0);
+            Tools.appendAll(other, 0, "x");
+            other.undo();
+            other.undo();
+            Due.is("a plan of before", other.loss(), 5);
+            other.make();
+            other.clear(0);
+            other.make();
+            other.plan(1);
+            for (int i = 0; i < 4; i++) {
+                other.undo();
+            }
+            Due.is("the order of before", Tools.orderOf(other), "4 0 1 2 3");
+            Due.is("the set of before", other.converted(), 9);
+            Due.is("the loss of before", other.loss(), 5);
+            Due.is("the work of before", Tools.workOf(other), "0123456789");
         });
     }
 

@@ -18,10 +18,7 @@ final class PlanSentences {
     private static void plan() {
         Sentences.from("Promise 10");
         Sentences.test("Makes a plan, in place of the former one.", () -> {
-            // COPY 3 (length 2) is in a cycle with 0 (length 3) and in one with 4 (length 1), so each policy has its own.
-            InPlaceDelta tool = Tools.ofDecoded("0123456789", 73, 10, 10, 5,
-                    1, 4, 0, 3, 2, 9, 1, 65, 2, 8, 1, 66, 1, 2, 5, 2, 1, 6, 3, 1);
-            tool.plan(0);
+            InPlaceDelta tool = States.star();
             Due.is("policy 0, order", Tools.orderOf(tool), "4 0 1 2 3");
             Due.is("policy 0, loss", tool.loss(), 5);
             tool.plan(2);
@@ -47,7 +44,14 @@ final class PlanSentences {
         });
         Sentences.test("Undoable.", () -> {
             Twin.isUndoable("the first plan", States::circle, t -> t.plan(1));
-            Twin.isUndoable("another plan", States::underWay, t -> t.plan(1));
+            Twin.isUndoable("a plan in place of another", States::star, t -> t.plan(1));
+            Twin.isUndoable("a plan in place of another, policy 2", States::star, t -> t.plan(2));
+            InPlaceDelta tool = States.star();
+            tool.plan(2);
+            tool.undo();
+            Due.is("the former order", Tools.orderOf(tool), "4 0 1 2 3");
+            Due.is("the former set", tool.converted(), 1 + 8);
+            Due.is("the former loss", tool.loss(), 5);
             Twin.isUndoable("the same plan", States::atEnd, t -> t.plan(0));
         });
         Sentences.test("policy: 0 to 2", () -> {
@@ -94,8 +98,8 @@ final class PlanSentences {
                 Twin.refusesArgument("policy " + policy + ", no commands", InPlaceDelta::new, t -> t.plan(policy));
             }
         });
-        Sentences.test("Throws `IllegalStateException` if the length of the old version is not the source length of the "
-                + "delta", () -> {
+        Sentences.test("Throws `IllegalStateException` if the length of the old version is not the source length of "
+                + "the delta", () -> {
             Twin.refusesState("longer by 1", States::oldTooLong, t -> t.plan(2));
             Twin.refusesState("shorter by 1", PlanSentences::oldTooShort, t -> t.plan(1));
             Twin.refusesState("none at all", PlanSentences::oldCleared, t -> t.plan(0));
@@ -226,8 +230,8 @@ final class PlanSentences {
 
     private static void leastLoss() {
         Sentences.from("Promise 14");
-        Sentences.test("Returns the least loss with which the COPY commands of the delta can be put into an order without "
-                + "a conflict, whichever of them are converted.", () -> {
+        Sentences.test("Returns the least loss with which the COPY commands of the delta can be put into an order "
+                + "without a conflict, whichever of them are converted.", () -> {
             Twin.changesNothing("a circle", States::underWay, t -> t.leastLoss(), 5);
             // COPY 2 (length 4) in a cycle with 0 and in one with 1, of length 2 each.
             InPlaceDelta two = Tools.ofCopies(20, 10, 0, 2, 13, 2, 2, 0, 10, 4);
@@ -242,8 +246,8 @@ final class PlanSentences {
             Due.is("policy 1 loses more", behind.loss(), 4);
             Due.is("than is needed", behind.leastLoss(), 3);
         });
-        Sentences.test("Returns the least sum of the lengths of COPY commands whose conversion leaves the others without a "
-                + "cycle.", () -> {
+        Sentences.test("Returns the least sum of the lengths of COPY commands whose conversion leaves the others "
+                + "without a cycle.", () -> {
             Due.is("no commands", new InPlaceDelta().leastLoss(), 0);
             Due.is("no COPY", States.thirtyAdds().leastLoss(), 0);
             Due.is("no conflict", States.twelveCopies().leastLoss(), 0);

@@ -1,7 +1,7 @@
 /** The promises one by one: ordinary inputs, the edges that the document names, and wrong inputs. */
 final class PromisesTest {
-    private static final int LOW = Integer.MIN_VALUE;
-    private static final int HIGH = Integer.MAX_VALUE;
+    private static final int LOW = States.LOW;
+    private static final int HIGH = States.HIGH;
 
     public static void main(String[] args) {
         newObject();
@@ -34,11 +34,6 @@ final class PromisesTest {
         undoOfEveryMethod();
         digest();
         Due.end();
-    }
-
-    /** Three blocks change places in a circle: the COPY commands 0, 2 and 4 in a cycle, the ADD commands 1 and 3. */
-    private static InPlaceDelta circle() {
-        return Tools.ofMade("abcde.fghij.klmno", "fghij-klmno-abcde");
     }
 
     /** Two pairs that swap places and have the lengths 4 and 4, and 6 and 5, with a gap between them. */
@@ -100,7 +95,7 @@ final class PromisesTest {
     }
 
     private static InPlaceDelta atWork() {
-        InPlaceDelta tool = circle();
+        InPlaceDelta tool = States.circle();
         tool.plan(0);
         tool.encode();
         tool.begin();
@@ -208,7 +203,7 @@ final class PromisesTest {
         Due.is("make again", tool.make(), 1);
         Due.is("in place of the former delta", Tools.deltaOf(tool), "1 0 0 4");
         planDropped("make", t -> t.make());
-        InPlaceDelta other = circle();
+        InPlaceDelta other = States.circle();
         other.clear(1);
         Tools.appendAll(other, 1, "XXabcde-fghij");
         other.make();
@@ -245,30 +240,9 @@ final class PromisesTest {
 
     private static void commands() {
         Due.is("no delta", new InPlaceDelta().commands(), 0);
-        Due.is("three COPY and two ADD commands", circle().commands(), 5);
-        InPlaceDelta tool = thirtyAdds();
+        Due.is("three COPY and two ADD commands", States.circle().commands(), 5);
+        InPlaceDelta tool = States.thirtyAdds();
         Due.is("30 commands", tool.commands(), 30);
-    }
-
-    /** 30 ADD commands that fill 64 bytes: the longest code that a delta can have. */
-    private static InPlaceDelta thirtyAdds() {
-        InPlaceDelta tool = new InPlaceDelta();
-        int sum = 73 + 0 + 64 + 30;
-        Tools.writeAll(tool, 73, 0, 64, 30);
-        int position = 0;
-        for (int i = 0; i < 30; i++) {
-            int length = i < 26 ? 2 : 3;
-            Tools.writeAll(tool, 2, position, length);
-            sum += 2 + position + length;
-            for (int k = 0; k < length; k++) {
-                tool.write(position + k);
-                sum += position + k;
-            }
-            position += length;
-        }
-        tool.write(sum % 251);
-        Due.is("decode of 30 commands", tool.decode(), 30);
-        return tool;
     }
 
     // ---- 8
@@ -295,7 +269,7 @@ final class PromisesTest {
     // ---- 9
 
     private static void mustPrecede() {
-        InPlaceDelta tool = circle();
+        InPlaceDelta tool = States.circle();
         Due.is("0 reads 6 to 10, 2 writes 6 to 10", tool.mustPrecede(0, 2));
         Due.is("2 reads 12 to 16, 0 writes 0 to 4", !tool.mustPrecede(2, 0));
         Due.is("2 before 4", tool.mustPrecede(2, 4));
@@ -323,7 +297,7 @@ final class PromisesTest {
     // ---- 10
 
     private static void plan() {
-        InPlaceDelta tool = circle();
+        InPlaceDelta tool = States.circle();
         for (int policy = 0; policy <= 2; policy++) {
             Due.is("a circle with policy " + policy, tool.plan(policy), 1);
         }
@@ -363,9 +337,7 @@ final class PromisesTest {
     }
 
     private static void policies() {
-        // COPY 3 (length 2) is in a cycle with 0 (length 3) and in one with 4 (length 1), so each policy has its own.
-        InPlaceDelta star = Tools.ofDecoded("0123456789", 73, 10, 10, 5,
-                1, 4, 0, 3, 2, 9, 1, 65, 2, 8, 1, 66, 1, 2, 5, 2, 1, 6, 3, 1);
+        InPlaceDelta star = States.star();
         planOf(star, 0, "4 0 1 2 3", 1 + 8, 5);
         planOf(star, 1, "0 1 2 3 4", 8 + 16, 3);
         planOf(star, 2, "0 4 1 2 3", 8, 2);
@@ -397,7 +369,7 @@ final class PromisesTest {
     // ---- 11
 
     private static void planned() {
-        InPlaceDelta tool = circle();
+        InPlaceDelta tool = States.circle();
         Due.throwsState("no plan", () -> tool.planned(0));
         Due.throwsState("no plan comes first", () -> tool.planned(-1));
         tool.plan(0);
@@ -413,30 +385,16 @@ final class PromisesTest {
     // ---- 12
 
     private static void converted() {
-        InPlaceDelta tool = circle();
+        InPlaceDelta tool = States.circle();
         Due.throwsState("no plan", () -> tool.converted());
         tool.plan(0);
         Due.is("COPY 0", tool.converted(), 1);
-        Due.is("the numbers are those of the commands", late30().converted(), 1 << 28);
+        InPlaceDelta late = States.afterAdds(42, 40, 1, 40, 42, 1);
+        late.plan(2);
+        Due.is("the numbers are those of the commands", late.converted(), 1 << 28);
         InPlaceDelta none = Tools.ofMade("abcd", "abcd");
         none.plan(0);
         Due.is("none", none.converted(), 0);
-    }
-
-    /** 28 ADD commands and then two COPY commands that swap places. */
-    private static InPlaceDelta late30() {
-        int[] bytes = new int[4 + 28 * 4 + 8];
-        int[] head = {73, 60, 60, 30};
-        System.arraycopy(head, 0, bytes, 0, 4);
-        for (int i = 0; i < 28; i++) {
-            int[] add = {2, i, 1, i};
-            System.arraycopy(add, 0, bytes, 4 + 4 * i, 4);
-        }
-        int[] copies = {1, 42, 40, 1, 1, 40, 42, 1};
-        System.arraycopy(copies, 0, bytes, 4 + 28 * 4, 8);
-        InPlaceDelta tool = Tools.ofDecoded("x".repeat(60), bytes);
-        tool.plan(2);
-        return tool;
     }
 
     // ---- 13
@@ -457,7 +415,7 @@ final class PromisesTest {
 
     private static void leastLoss() {
         Due.is("no commands", new InPlaceDelta().leastLoss(), 0);
-        Due.is("a circle", circle().leastLoss(), 5);
+        Due.is("a circle", States.circle().leastLoss(), 5);
         Due.is("two swaps", twoSwaps().leastLoss(), 9);
         Due.is("a chain", Tools.ofMade("abcdefghijkl", "XXXXabcdefgh").leastLoss(), 0);
         Due.is("a COPY over itself", Tools.ofMade("abcdefgh", "Xabcdefgh").leastLoss(), 0);
@@ -469,7 +427,7 @@ final class PromisesTest {
         best.plan(0);
         Due.is("policy 0 loses more", best.loss(), 5);
         Due.is("than is needed", best.leastLoss(), 1);
-        InPlaceDelta versions = circle();
+        InPlaceDelta versions = States.circle();
         versions.clear(0);
         Due.is("the versions do not matter", versions.leastLoss(), 5);
         versions.make();
@@ -502,7 +460,7 @@ final class PromisesTest {
                 "73 8 8 2 1 0 4 4 2 0 4 69 70 71 72 " + sum % 251);
         Due.is("what is encoded can be decoded", swap.decode(), 2);
         Due.is("as a COPY and an ADD", Tools.deltaOf(swap), "1 0 4 4; 2 -1 0 4");
-        InPlaceDelta longest = thirtyAdds();
+        InPlaceDelta longest = States.thirtyAdds();
         Tools.appendAll(longest, 1, "x");
         longest.plan(0);
         Due.is("the longest code that there is", longest.encode(), 5 + 30 * 3 + 64);
@@ -559,10 +517,10 @@ final class PromisesTest {
         Due.throwsArgument("the lowest index", () -> tool.code(LOW));
     }
 
-    // ---- 19; its faults are in FaultsTest
+    // ---- 19; its faults are in DecodingSentences
 
     private static void decode() {
-        InPlaceDelta tool = circle();
+        InPlaceDelta tool = States.circle();
         tool.plan(0);
         tool.encode();
         tool.begin();
@@ -619,7 +577,7 @@ final class PromisesTest {
     // ---- 21
 
     private static void step() {
-        InPlaceDelta tool = circle();
+        InPlaceDelta tool = States.circle();
         Due.throwsState("no work", () -> tool.step());
         tool.plan(0);
         Due.throwsState("a plan is no work", () -> tool.step());
@@ -768,12 +726,12 @@ final class PromisesTest {
     private static void undoOfEveryMethod() {
         undone("append", atWork(), t -> t.append(0, 1));
         undone("patch", atWork(), t -> t.patch(1, 0, 1));
-        undone("patch with the same byte", circle(), t -> t.patch(1, 0, 'f'));
+        undone("patch with the same byte", States.circle(), t -> t.patch(1, 0, 'f'));
         undone("clear(0)", atWork(), t -> t.clear(0));
         undone("clear(1)", atWork(), t -> t.clear(1));
         undone("make", Tools.ofVersions("abcd", "xabcd"), t -> t.make());
         undone("make with a plan and a work", atWork(), t -> t.make());
-        undone("plan", circle(), t -> t.plan(1));
+        undone("plan", States.circle(), t -> t.plan(1));
         undone("plan with a work", atWork(), t -> t.plan(1));
         undone("encode", atWork(), t -> t.encode());
         undone("write", atWork(), t -> t.write(0));
@@ -781,9 +739,7 @@ final class PromisesTest {
         undone("decode", atWork(), t -> t.decode());
         undone("begin", atWork(), t -> t.begin());
         undone("step", atWork(), t -> t.step());
-        InPlaceDelta plans = Tools.ofDecoded("0123456789", 73, 10, 10, 5,
-                1, 4, 0, 3, 2, 9, 1, 65, 2, 8, 1, 66, 1, 2, 5, 2, 1, 6, 3, 1);
-        plans.plan(0);
+        InPlaceDelta plans = States.star();
         undone("another plan", plans, t -> t.plan(2));
         Due.is("the order of the former plan", Tools.orderOf(plans), "4 0 1 2 3");
         Due.is("its loss", plans.loss(), 5);
@@ -791,7 +747,7 @@ final class PromisesTest {
         again.append(1, 1);
         again.undo();
         Due.is("the work that comes back can go on", again.step(), 4);
-        InPlaceDelta looks = circle();
+        InPlaceDelta looks = States.circle();
         looks.plan(0);
         looks.begin();
         looks.byteOf(0, 0);

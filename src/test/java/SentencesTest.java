@@ -2,7 +2,7 @@
 final class SentencesTest {
     public static void main(String[] args) throws Exception {
         DescriptionSentences.run();
-        PlansSentences.run();
+        PolicySentences.run();
         DecodingSentences.run();
         ExceptionsSentences.run();
         VersionSentences.run();

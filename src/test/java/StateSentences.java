@@ -137,20 +137,20 @@ final class StateSentences {
             InPlaceDelta tool = Tools.ofDecoded("", 73, 7, 9, 0);
             Due.is("7 and 9", tool.digest(), Tools.hashOf(0, 0, 7, 9, 0, 0, 0, 5, 73, 7, 9, 0, 89, 0, 4));
         });
-        Sentences.test("the number of commands and, for each command, the values of command() for what = 0 to 3 and, for an "
-                + "ADD, its bytes", () -> {
-            InPlaceDelta tool = Tools.ofDecoded("", 73, 7, 9, 2, 2, 5, 2, 255, 0, 1, 3, 1, 4);
+        Sentences.test("the number of commands and, for each command, the values of command() for what = 0 to 3 and, "
+                + "for an ADD, its bytes", () -> {
+            InPlaceDelta tool = Tools.ofDecoded("", 73, 7, 9, 2, 2, 5, 3, 255, 0, 7, 1, 3, 1, 4);
             tool.clearCode();
             Due.is("an ADD and a COPY", tool.digest(),
-                    Tools.hashOf(0, 0, 7, 9, 2, 2, -1, 5, 2, 255, 0, 1, 3, 1, 4, 0, 0, 0, 0, 4));
+                    Tools.hashOf(0, 0, 7, 9, 2, 2, -1, 5, 3, 255, 0, 7, 1, 3, 1, 4, 0, 0, 0, 0, 4));
         });
         Sentences.test("leastLoss()", () -> {
             InPlaceDelta tool = Tools.ofDecoded("", 73, 8, 8, 2, 1, 4, 0, 4, 1, 0, 4, 3);
             tool.clearCode();
             Due.is("3", tool.digest(), Tools.hashOf(0, 0, 8, 8, 2, 1, 4, 0, 4, 1, 0, 4, 3, 3, 0, 0, 0, 4));
         });
-        Sentences.test("1 or 0 for whether there is a plan, and if there is one the commands in its order and the set of "
-                + "converted ones", () -> {
+        Sentences.test("1 or 0 for whether there is a plan, and if there is one the commands in its order and the set "
+                + "of converted ones", () -> {
             InPlaceDelta none = new InPlaceDelta();
             none.plan(0);
             Due.is("a plan without commands", none.digest(), Tools.hashOf(0, 0, 0, 0, 0, 0, 1, 0, 0, 0, 1));
@@ -168,8 +168,8 @@ final class StateSentences {
             Tools.writeAll(tool, 0, 255);
             Due.is("two", tool.digest(), Tools.hashOf(0, 0, 0, 0, 0, 0, 0, 2, 0, 255, 0, 2));
         });
-        Sentences.test("1 or 0 for whether there is a work, and if there is one the number of commands that are left, its "
-                + "length and its bytes", () -> {
+        Sentences.test("1 or 0 for whether there is a work, and if there is one the number of commands that are left, "
+                + "its length and its bytes", () -> {
             InPlaceDelta tool = Tools.ofMade("ab", "c");
             tool.plan(0);
             tool.begin();

@@ -29,6 +29,17 @@ final class States {
         return tool;
     }
 
+    /**
+     * The plan with policy 0 of a delta for which each policy has its own plan: COPY 3 (length 2) is in a cycle with
+     * COPY 0 (length 3) and in one with COPY 4 (length 1), the commands 1 and 2 are ADD commands.
+     */
+    static InPlaceDelta star() {
+        InPlaceDelta tool = Tools.ofDecoded("0123456789", 73, 10, 10, 5,
+                1, 4, 0, 3, 2, 9, 1, 65, 2, 8, 1, 66, 1, 2, 5, 2, 1, 6, 3, 1);
+        tool.plan(0);
+        return tool;
+    }
+
     /** Both versions with 64 bytes, a plan, and a work with one command left. */
     static InPlaceDelta fullVersions() {
         InPlaceDelta tool = Tools.ofMade(Tools.letters(64), Tools.letters(63) + "!");

@@ -268,7 +268,7 @@ final class VersionSentences {
         Sentences.test("Throws `IllegalArgumentException` if version is out of range", () -> {
             for (int version : new int[] {-1, 2, LOW, HIGH}) {
                 Twin.refusesArgument("version " + version, States::underWay, t -> t.byteOf(version, 0));
-                Twin.refusesArgument("version " + version + " and no byte", States::underWay, t -> t.byteOf(version, 17));
+                Twin.refusesArgument("version " + version + ", no byte", States::underWay, t -> t.byteOf(version, 17));
             }
         });
         Sentences.test("Throws `IndexOutOfBoundsException` if the version has no such byte", () -> {

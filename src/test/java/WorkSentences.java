@@ -157,7 +157,7 @@ final class WorkSentences {
         });
     }
 
-    /** The comparison of a work without commands, so of the old version cut or filled with zeros, with a new version. */
+    /** Compares a work without commands, so the old version cut or filled with zeros, with a new version. */
     private static void compared(String what, String old, int targetLength, String fresh, int due) {
         InPlaceDelta tool = Tools.ofDecoded(old, 73, old.length(), targetLength, 0);
         Tools.appendAll(tool, 1, fresh);
@@ -173,8 +173,8 @@ final class WorkSentences {
             Twin.changesNothing("at the end", States::atEnd, t -> t.compare(), InPlaceDelta.NONE);
             compared("not the old version", "abcd", 2, "ab", InPlaceDelta.NONE);
         });
-        Sentences.test("Returns the index of the first byte that differs (or that only one of them has); NONE if they are "
-                + "equal.", () -> {
+        Sentences.test("Returns the index of the first byte that differs (or that only one of them has); NONE if they "
+                + "are equal.", () -> {
             compared("the first byte", "abcd", 4, "Xbcd", 0);
             compared("the last byte", "abcd", 4, "abcX", 3);
             compared("the first of two", "abcd", 4, "aXcX", 1);

@@ -1,6 +1,6 @@
 /** The paragraph "Plans" of "Description", sentence by sentence; COPY commands are given by source, target, length. */
-final class PlansSentences {
-    private PlansSentences() {
+final class PolicySentences {
+    private PolicySentences() {
     }
 
     static void run() {
@@ -42,8 +42,8 @@ final class PlansSentences {
             tool.step();
             Due.is("command 2 is the first", Tools.workOf(tool), "abcde.klmno.klmno");
         });
-        Sentences.test("A converted COPY is carried out like an ADD of the bytes that the old version has at the positions "
-                + "that it reads.", () -> {
+        Sentences.test("A converted COPY is carried out like an ADD of the bytes that the old version has at the "
+                + "positions that it reads.", () -> {
             InPlaceDelta tool = Tools.ofCopies(8, 4, 0, 4, 0, 4, 4);
             tool.plan(0);
             tool.begin();
@@ -67,8 +67,8 @@ final class PlansSentences {
     }
 
     private static void next() {
-        Sentences.test("The order of the COPY commands is built like this: the next one is the COPY with the lowest number "
-                + "that is neither placed nor converted and that no other such COPY must precede.", () -> {
+        Sentences.test("The order of the COPY commands is built like this: the next one is the COPY with the lowest "
+                + "number that is neither placed nor converted and that no other such COPY must precede.", () -> {
             // 2 must precede 0; as soon as it is placed, 0 is lower than 3, which has been free all the time.
             planOfEachPolicy(Tools.ofCopies(20, 10, 0, 2, 11, 13, 1, 0, 15, 1, 10, 17, 1), "1 2 0 3", 0);
             // A chain: 3 before 2 before 1 before 0.
@@ -78,11 +78,15 @@ final class PlansSentences {
             // Converted ones hinder no more: 0 in a cycle with 1 must precede 2, too.
             planOf(Tools.ofCopies(20, 4, 0, 4, 0, 4, 2, 10, 6, 2), 0, "1 2 0", set(0));
         });
-        Sentences.test("If there are COPY commands left, but none of them can be next, one of them is converted", () -> {
+        Sentences.test("If there are COPY commands left, but none of them can be next, one of them is converted",
+                () -> {
             // COPY 2 is free, so it is placed before anything is converted, and 0 and 1 are in a cycle.
             planOfEachPolicy(Tools.ofCopies(20, 4, 0, 3, 0, 4, 3, 10, 12, 1), "2 1 0", set(0));
             // 0 is in no cycle, but 1, which is in one with 2, must precede it: it is one of those that are left.
             planOf(Tools.ofCopies(20, 15, 10, 1, 10, 0, 3, 0, 12, 3), 0, "2 0 1", set(0, 1));
+            // 0 is in no cycle, but 1, which is in one with 2, and 3, which is in one with 4, must precede it.
+            InPlaceDelta behind = Tools.ofCopies(60, 50, 30, 4, 29, 10, 2, 10, 29, 1, 33, 15, 2, 15, 34, 1);
+            planOf(behind, 2, "2 4 0 1 3", set(0, 1, 3));
             // No COPY is left and no conversion needed: the ADD commands wait for nothing.
             planOfEachPolicy(Tools.ofDecoded("ab", 73, 2, 2, 2, 2, 0, 1, 7, 1, 0, 1, 1), "1 0", 0);
             // One conversion at a time: two cycles, 0 with 3 and 1 with 2.
@@ -94,7 +98,7 @@ final class PlansSentences {
         Sentences.test("with the policy 0 the one with the lowest number", () -> {
             planOf(Tools.ofCopies(20, 4, 0, 3, 0, 4, 1), 0, "1 0", set(0));
             planOf(Tools.ofCopies(20, 0, 4, 1, 4, 0, 3), 0, "1 0", set(0));
-            // Neither the length nor the number of conflicts counts: 2 is the shortest and in a cycle with 0 and with 1.
+            // Neither length nor number of conflicts counts: 2 is the shortest and in a cycle with 0 and with 1.
             planOf(Tools.ofCopies(20, 10, 0, 3, 10, 3, 3, 2, 10, 2), 0, "2 0 1", set(0, 1));
         });
         Sentences.test("with the policy 1 the one with the smallest length, the lowest number of equal ones", () -> {
@@ -139,7 +143,8 @@ final class PlansSentences {
             planOf(Tools.ofCopies(40, 14, 10, 2, 10, 14, 2, 4, 0, 2, 0, 4, 2), 2, "1 3 0 2", set(0, 2));
         });
         Sentences.test("with the policy 2 the one that must be carried out before or after the greatest number of the "
-                + "others that are left (each counted once, even if both hold), the lowest number of equal ones", () -> {
+                + "others that are left (each counted once, even if both hold), the lowest number of equal ones",
+                () -> {
             planOf(Tools.ofCopies(20, 4, 0, 3, 0, 4, 1), 2, "1 0", set(0));
             planOf(Tools.ofCopies(20, 0, 4, 1, 4, 0, 3), 2, "1 0", set(0));
             // Cycles of 0 with 1, of 1 with 2, of 2 with 3: 1 and 2 have two each.
